@@ -789,7 +789,7 @@ public final class PatchedMachine {
         }
 
         private void reach(int value, int type) {
-            if (type == INT || !isObject(value) || isReached[value - 1]) {
+            if (type == INT || value < 1 || value > MOST_OBJECTS || isReached[value - 1]) {
                 return;
             }
             isReached[value - 1] = true;
@@ -797,24 +797,24 @@ public final class PatchedMachine {
             reachedCount++;
         }
 
-        private void endCollection(Program present) {
+        private void reachOverFields(Program present) {
             // The count grows while the rows are followed, up to the number of rows.
             for (int i = 0; i < reachedCount && i < MOST_OBJECTS; i++) {
-                reachFieldsOf(reachedRows[i], present);
+                int row = reachedRows[i];
+                Layout fields = present.layouts[classes[row]];
+                for (int k = 0; k < fields.size; k++) {
+                    reach(values[row][k], fields.types[k]);
+                }
             }
+        }
+
+        private void takeAwayTheRest() {
             for (int row = 0; row < MOST_OBJECTS; row++) {
                 if (!isReached[row]) {
                     classes[row] = INT;
                 }
             }
             count = reachedCount;
-        }
-
-        private void reachFieldsOf(int row, Program present) {
-            Layout fields = present.layouts[classes[row]];
-            for (int k = 0; k < fields.size; k++) {
-                reach(values[row][k], fields.types[k]);
-            }
         }
 
         /** Answers how many objects it gave new fields. */
@@ -848,7 +848,7 @@ public final class PatchedMachine {
         private int count = 0;
 
         private void print(int number) {
-            kept[count % OUTPUTS_KEPT] = number;
+            kept[Math.floorMod(count, OUTPUTS_KEPT)] = number;
             count++;
         }
 
@@ -856,7 +856,7 @@ public final class PatchedMachine {
             if (back < 0 || back >= OUTPUTS_KEPT || back >= count) {
                 return 0;
             }
-            return kept[(count - 1 - back) % OUTPUTS_KEPT];
+            return kept[Math.floorMod(count - 1 - back, OUTPUTS_KEPT)];
         }
     }
 
@@ -1062,7 +1062,8 @@ public final class PatchedMachine {
             for (int i = 0; i < depth; i++) {
                 reachFrom(frames[i], present.routines[frames[i].method]);
             }
-            heap.endCollection(present);
+            heap.reachOverFields(present);
+            heap.takeAwayTheRest();
         }
 
         private void reachFrom(Frame frame, Routine routine) {

@@ -11,6 +11,8 @@ public final class CollectionTest {
         everyPatchCollects(due);
         intsReachNothing(due);
         rowsUsedAgainAreClear(due);
+        everyFieldReaches(due);
+        whatWasTakenReachesNothing(due);
         due.end();
     }
 
@@ -207,5 +209,44 @@ public final class CollectionTest {
         for (int back = 0; back < 16; back++) {
             due.is("a new object's field, " + back + " back", 0, x.output(back));
         }
+    }
+
+    /** An object holds another one by its field 0, 1, 2 or 3. */
+    private static void everyFieldReaches(Due due) {
+        for (int k = 0; k < 4; k++) {
+            PatchedMachine x = new PatchedMachine();
+            x.layout(1);
+            for (int i = 0; i < 4; i++) {
+                x.field(1, 9 - i, i == k ? 3 : 0, -1);
+            }
+            Build.method(x, 0, 0, Build.locals(1), 0, Build.op(Build.NEW, 1), Build.op(Build.STORE, 0),
+                    Build.op(Build.LOAD, 0), Build.op(Build.NEW, 3), Build.op(Build.PUT, 1, 9 - k),
+                    Build.op(Build.PUSH, 0), Build.op(Build.OUT), Build.op(Build.NEW, 3), Build.op(Build.NULL, 3),
+                    Build.op(Build.SAME, 3), RETURN);
+            Build.constant(x, 5, 1);
+            Build.commit(x);
+            Build.start(x, 0);
+            x.run(10);
+            due.is("three were made", 3, x.objects());
+            Build.constant(x, 5, 1);
+            Build.commit(x);
+            due.is("field " + k + " holds one", 2, x.objects());
+        }
+    }
+
+    /** The value above the stack's top is the object that was let go. */
+    private static void whatWasTakenReachesNothing(Due due) {
+        PatchedMachine x = new PatchedMachine();
+        Build.method(x, 0, 0, Build.locals(1), 0, Build.op(Build.PUSH, 7), Build.op(Build.NEW, 1),
+                Build.op(Build.STORE, 0), Build.op(Build.OUT), Build.op(Build.NULL, 1), Build.op(Build.STORE, 0),
+                Build.op(Build.PUSH, 7), RETURN);
+        Build.constant(x, 5, 1);
+        Build.commit(x);
+        Build.start(x, 0);
+        x.run(7);
+        due.is("one was made", 1, x.objects());
+        Build.constant(x, 5, 1);
+        Build.commit(x);
+        due.is("it was let go", 0, x.objects());
     }
 }

@@ -18,6 +18,7 @@ public final class PatchTest {
         movedObjects(due);
         movedWhileFramesHoldThem(due);
         movedByEachPatch(due);
+        movedTwice(due);
         callsMeetTheNewMethod(due);
         due.end();
     }
@@ -210,6 +211,8 @@ public final class PatchTest {
         onlyTheNumberChanges(due);
         onlyTheLastParameterChanges(due);
         onlyOtherLocalsChange(due);
+        twoCallersAreRestricted(due);
+        callsOfOthersRestrictNothing(due);
     }
 
     /**
@@ -299,6 +302,45 @@ public final class PatchTest {
     private static void lastParameter(PatchedMachine x, int type) {
         Build.method(x, 2, 0, 0, type, Build.op(Build.NULL, type), RETURN);
         Build.method(x, 3, 3, Build.locals(0, 0, type), 0, Build.op(Build.LOAD, 1), RETURN);
+    }
+
+    private static void twoCallersAreRestricted(Due due) {
+        PatchedMachine x = new PatchedMachine();
+        Build.method(x, 0, 0, 0, 0, Build.op(Build.CALL, 2), Build.op(Build.CALL, 3), RETURN);
+        Build.method(x, 1, 0, 0, 0, Build.op(Build.CALL, 4), Build.op(Build.CALL, 5), RETURN);
+        twoPairs(x, 1);
+        Build.commit(x);
+        Build.start(x, 0);
+        twoPairs(x, 2);
+        Build.commit(x);
+        due.is("each by its own calls", 63, x.restricted());
+        x.run(300);
+        Build.start(x, 1);
+        twoPairs(x, 0);
+        Build.commit(x);
+        due.is("the other one runs", 63, x.restricted());
+    }
+
+    private static void callsOfOthersRestrictNothing(Due due) {
+        for (int m = 0; m < 6; m++) {
+            PatchedMachine x = new PatchedMachine();
+            int callee = (m + 1) % 6;
+            Build.method(x, m, 0, 0, 0, Build.op(Build.CALL, callee), RETURN);
+            Build.constant(x, callee, 4);
+            Build.commit(x);
+            Build.start(x, m);
+            Build.method(x, (m + 2) % 6, 2, 0, 3, Build.op(Build.NULL, 3), RETURN);
+            Build.commit(x);
+            due.is("method " + m + " calls none that has another head", 0, x.waiting());
+        }
+    }
+
+    /** Methods 2 and 4 return what methods 3 and 5 take. */
+    private static void twoPairs(PatchedMachine x, int type) {
+        for (int m = 2; m <= 4; m += 2) {
+            Build.method(x, m, 0, 0, type, Build.op(type == 0 ? Build.PUSH : Build.NULL, type), RETURN);
+            Build.method(x, m + 1, 1, Build.locals(type), 0, Build.op(Build.PUSH, 7), RETURN);
+        }
     }
 
     private static void onlyOtherLocalsChange(Due due) {
@@ -457,6 +499,27 @@ public final class PatchTest {
         Build.commit(x);
         due.is("a patch of methods alone", 6, x.moved());
         due.is("applied", 5, x.applied());
+    }
+
+    /** The second patch has a field without source where the first one had one with. */
+    private static void movedTwice(Due due) {
+        PatchedMachine x = withObject();
+        int[] load = Build.op(Build.LOAD, 0);
+        Build.fields(x, 1, new int[] {2, 0, 2}, new int[] {1, 0, 1}, new int[] {3, 1, 3}, new int[] {8, 1, 3});
+        Build.commit(x);
+        Build.fields(x, 1, new int[] {1, 0, 1}, new int[] {2, 0, -1}, new int[] {6, 1, -1}, new int[] {3, 1, 8});
+        Build.method(x, 1, 1, 1, 0, load, Build.op(Build.GET, 1, 1), Build.op(Build.OUT),
+                load, Build.op(Build.GET, 1, 2), Build.op(Build.OUT),
+                load, Build.op(Build.GET, 1, 6), Build.op(Build.NULL, 1), Build.op(Build.SAME, 1), Build.op(Build.OUT),
+                load, Build.op(Build.CALL, 4), RETURN);
+        Build.method(x, 4, 1, 1, 0, load, Build.op(Build.GET, 1, 3), load, Build.op(Build.SAME, 1), RETURN);
+        Build.commit(x);
+        due.is("moved by both", 2, x.moved());
+        x.run(300);
+        due.is("an object over both patches", 1, x.result());
+        due.is("null without source", 1, x.output(0));
+        due.is("0 without source", 0, x.output(1));
+        due.is("an int over both patches", 11, x.output(2));
     }
 
     private static void callsMeetTheNewMethod(Due due) {

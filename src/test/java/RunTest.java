@@ -15,6 +15,8 @@ public final class RunTest {
         deep(due);
         voidRuns(due);
         fieldsAndSame(due);
+        sixOnTheStack(due);
+        nullsAreOnTheStack(due);
         due.end();
     }
 
@@ -240,5 +242,34 @@ public final class RunTest {
         due.is("an object and null", 0, x.output(3));
         due.is("a field not put", 0, x.output(4));
         due.is("objects", 3, x.objects());
+    }
+
+    /** A run that ends as VOID with a filled stack leaves nothing of it to the next. */
+    private static void sixOnTheStack(Due due) {
+        PatchedMachine x = new PatchedMachine();
+        Build.fields(x, 1, new int[] {0, 0, -1});
+        int[] add = Build.op(Build.ADD);
+        Build.method(x, 0, 0, 0, 0, Build.op(Build.PUSH, 1), Build.op(Build.PUSH, 20), Build.op(Build.PUSH, 300),
+                Build.op(Build.PUSH, 4000), Build.op(Build.PUSH, 50000), Build.op(Build.PUSH, 600000),
+                add, add, add, add, add, RETURN);
+        Build.method(x, 1, 0, 0, 0, Build.op(Build.PUSH, 1), Build.op(Build.PUSH, 2), Build.op(Build.PUSH, 3),
+                Build.op(Build.PUSH, 4), Build.op(Build.PUSH, 5), Build.op(Build.NULL, 1), Build.op(Build.GET, 1, 0),
+                add, add, add, add, add, RETURN);
+        Build.commit(x);
+        Build.start(x, 1);
+        due.is("to VOID", 7, x.run(300));
+        Build.start(x, 0);
+        due.is("all of it", 12, x.run(300));
+        due.is("all six", 654321, x.result());
+    }
+
+    private static void nullsAreOnTheStack(Due due) {
+        PatchedMachine x = new PatchedMachine();
+        Build.method(x, 0, 0, 0, 0, Build.op(Build.PUSH, 5), Build.op(Build.NULL, 2), Build.op(Build.NULL, 2),
+                Build.op(Build.SAME, 2), Build.op(Build.ADD), RETURN);
+        Build.commit(x);
+        Build.start(x, 0);
+        x.run(300);
+        due.is("two nulls above an int", 6, x.result());
     }
 }

@@ -40,6 +40,8 @@ public final class SoundTest {
                 commitOf(PUSH, Build.op(Build.ZERO, 3), PUSH, RETURN));
         due.is("ZERO into an empty stack", 0,
                 commitOf(PUSH, Build.op(Build.ZERO, 2), PUSH, RETURN));
+        due.is("JUMP at place 0 into a filled stack", 3,
+                commitOf(Build.op(Build.JUMP, 2), PUSH, RETURN));
         due.is("JUMP to itself", 0, commitOf(Build.op(Build.JUMP, 0)));
         due.is("JUMP over what is not run", 0,
                 commitOf(Build.op(Build.JUMP, 3), PUSH, RETURN, PUSH, RETURN));
@@ -118,14 +120,19 @@ public final class SoundTest {
 
     private static void seventhOnTheStack(Due due) {
         int[] add = Build.op(Build.ADD);
+        int[] call = Build.op(Build.CALL, 0);
+        int[] object = Build.op(Build.NULL, 1);
+        int[] get = Build.op(Build.GET, 1, 3);
         due.is("six", 0, commitOf(PUSH, PUSH, PUSH, PUSH, PUSH, PUSH, add, add, add, add, add, RETURN));
-        due.is("a seventh", 7, commitOf(PUSH, PUSH, PUSH, PUSH, PUSH, PUSH, PUSH, add, add, add, add, add, add, RETURN));
+        due.is("a seventh", 7,
+                commitOf(PUSH, PUSH, PUSH, PUSH, PUSH, PUSH, PUSH, add, add, add, add, add, add, RETURN));
         due.is("a seventh by CALL", 7,
-                commitOf(PUSH, PUSH, PUSH, PUSH, PUSH, PUSH, Build.op(Build.CALL, 0), add, add, add, add, add, add, RETURN));
+                commitOf(PUSH, PUSH, PUSH, PUSH, PUSH, PUSH, call, add, add, add, add, add, add, RETURN));
         due.is("a seventh by LOAD", 7, commitOf(PUSH, PUSH, PUSH, PUSH, PUSH, PUSH, Build.op(Build.LOAD, 0), RETURN));
         due.is("a seventh by NEW", 7, commitOf(PUSH, PUSH, PUSH, PUSH, PUSH, PUSH, Build.op(Build.NEW, 1), RETURN));
-        due.is("GET on six", 0, commitOf(PUSH, PUSH, PUSH, PUSH, PUSH, Build.op(Build.NULL, 1), Build.op(Build.GET, 1, 3),
-                add, add, add, add, add, RETURN));
+        due.is("a seventh by NULL", 7, commitOf(PUSH, PUSH, PUSH, PUSH, PUSH, PUSH, object, RETURN));
+        due.is("GET on six", 0,
+                commitOf(PUSH, PUSH, PUSH, PUSH, PUSH, object, get, add, add, add, add, add, RETURN));
     }
 
     private static void endsNeedAnEmptyStack(Due due) {
@@ -168,10 +175,11 @@ public final class SoundTest {
 
     private static void theFirstIsTold(Due due) {
         PatchedMachine x = new PatchedMachine();
-        Build.method(x, 5, 0, 0, 0, PUSH, PUSH, PUSH, PUSH, PUSH, PUSH, PUSH, PUSH, PUSH, PUSH, PUSH, PUSH, PUSH, RETURN);
+        int[] out = Build.op(Build.OUT);
+        Build.method(x, 5, 0, 0, 0, PUSH, PUSH, PUSH, PUSH, PUSH, PUSH, PUSH, PUSH, RETURN);
         due.is("of method 5", 507, x.commit());
-        Build.method(x, 5, 0, 0, 0, PUSH, Build.op(Build.OUT), PUSH, Build.op(Build.OUT), PUSH, Build.op(Build.OUT),
-                PUSH, Build.op(Build.OUT), PUSH, Build.op(Build.OUT), PUSH, Build.op(Build.OUT), PUSH, Build.op(Build.OUT));
+        Build.method(x, 5, 0, 0, 0,
+                PUSH, out, PUSH, out, PUSH, out, PUSH, out, PUSH, out, PUSH, out, PUSH, out);
         due.is("of the last place", 514, x.commit());
         Build.method(x, 3, 0, 0, 0, PUSH, RETURN, RETURN, PUSH);
         due.is("of the lesser method", 303, x.commit());
