@@ -14,6 +14,7 @@ public final class MoveEdgeTest {
         objectsKeepTheirPlaces(due);
         objectFieldsWithoutASourceAreNull(due);
         otherClassesAreAsTheyWere(due);
+        twoClassesInOnePatch(due);
         sourcesOverSeveralPatches(due);
         aFieldTakenAwayAndGivenAgain(due);
         sixteenAreMoved(due);
@@ -184,6 +185,52 @@ public final class MoveEdgeTest {
             due.is("another object", 1, x.output(0));
             due.is("itself", 1, x.output(1));
         }
+    }
+
+    /** Objects of classes 1 and 2 in both orders: a field of one has a source where that of the other has none. */
+    private static void twoClassesInOnePatch(Due due) {
+        for (int first = 1; first <= 2; first++) {
+            for (int withSource = 1; withSource <= 2; withSource++) {
+                PatchedMachine x = twoObjects(first);
+                for (int c = 1; c <= 2; c++) {
+                    int from = c == withSource ? 1 : -1;
+                    Build.fields(x, c, new int[] {1, 0, from}, new int[] {2, 0, -from});
+                    Build.method(x, 2 + c, 0, 0, c, Build.op(Build.NEW, c), RETURN);
+                }
+                Build.method(x, 1, 2, Build.locals(1, 2), 0, LOAD, Build.op(Build.GET, 1, 1), OUT,
+                        LOAD, Build.op(Build.GET, 1, 2), OUT, Build.op(Build.LOAD, 1), Build.op(Build.GET, 2, 1), OUT,
+                        Build.op(Build.LOAD, 1), Build.op(Build.GET, 2, 2), RETURN);
+                Build.commit(x);
+                due.is("both are moved", 2, x.moved());
+                x.run(300);
+                int[] want = {withSource == 1 ? 70 : 0, withSource == 1 ? 0 : 70, withSource == 1 ? 0 : 80,
+                    withSource == 1 ? 80 : 0};
+                for (int k = 0; k < 3; k++) {
+                    due.is("field " + k + ", source in class " + withSource, want[k], x.output(2 - k));
+                }
+                due.is("the last field", want[3], x.result());
+            }
+        }
+    }
+
+    /** Method 0 holds an object of class 1 with 70 and one of class 2 with 80, made in this order or the other one. */
+    private static PatchedMachine twoObjects(int first) {
+        PatchedMachine x = new PatchedMachine();
+        for (int c = 1; c <= 2; c++) {
+            Build.fields(x, c, new int[] {1, 0, -1});
+            Build.method(x, 2 + c, 0, c, c, Build.op(Build.NEW, c), Build.op(Build.STORE, 0), LOAD,
+                    Build.op(Build.PUSH, 60 + 10 * c), Build.op(Build.PUT, c, 1), LOAD, RETURN);
+        }
+        int second = 3 - first;
+        Build.method(x, 1, 2, Build.locals(1, 2), 0, Build.op(Build.PUSH, 1), RETURN);
+        Build.method(x, 0, 0, Build.locals(0, 1, 2), 0, Build.op(Build.CALL, 2 + first), Build.op(Build.STORE, first),
+                Build.op(Build.CALL, 2 + second), Build.op(Build.STORE, second), Build.op(Build.LOAD, 1),
+                Build.op(Build.LOAD, 2), Build.op(Build.CALL, 1), RETURN);
+        Build.commit(x);
+        Build.start(x, 0);
+        x.run(2 * 9 + 2);
+        due(x.frame(0) == 6 && x.objects() == 2);
+        return x;
     }
 
     /**

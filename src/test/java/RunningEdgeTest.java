@@ -27,6 +27,9 @@ public final class RunningEdgeTest {
         resultOfTheLatestRun(due);
         frameOfEveryDepth(due);
         outputsOfAllRuns(due);
+        newObjectsInPlacesUsedBefore(due);
+        stacksLeftByAnEnd(due);
+        allCallsThatArePromised(due);
         due.end();
     }
 
@@ -545,5 +548,73 @@ public final class RunningEdgeTest {
                 due.is("output(" + back + ") of " + count, 0, x.output(back));
             }
         }
+    }
+
+    /** Each round makes an object of class 1, tells its fields (methods 1 and 3), and fills them (method 2). */
+    private static void newObjectsInPlacesUsedBefore(Due due) {
+        PatchedMachine x = new PatchedMachine();
+        Build.fields(x, 1, new int[] {6, 0, -1}, new int[] {7, 1, -1}, new int[] {8, 2, -1}, new int[] {9, 3, -1});
+        Build.method(x, 1, 1, 1, 0, LOAD, Build.op(Build.GET, 1, 6), OUT,
+                LOAD, Build.op(Build.GET, 1, 7), Build.op(Build.NULL, 1), Build.op(Build.SAME, 1), OUT,
+                LOAD, Build.op(Build.GET, 1, 8), Build.op(Build.NULL, 2), Build.op(Build.SAME, 2), RETURN);
+        Build.method(x, 3, 1, 1, 0, LOAD, Build.op(Build.GET, 1, 9), Build.op(Build.NULL, 3),
+                Build.op(Build.SAME, 3), RETURN);
+        Build.method(x, 2, 1, 1, 0, LOAD, Build.op(Build.PUSH, 5), Build.op(Build.PUT, 1, 6),
+                LOAD, LOAD, Build.op(Build.PUT, 1, 7), LOAD, Build.op(Build.NEW, 2), Build.op(Build.PUT, 1, 8),
+                LOAD, Build.op(Build.NEW, 3), Build.op(Build.PUT, 1, 9), Build.op(Build.PUSH, 2), RETURN);
+        Build.method(x, 0, 0, 1, 0, Build.op(Build.NEW, 1), Build.op(Build.STORE, 0), LOAD, Build.op(Build.CALL, 1),
+                OUT, LOAD, Build.op(Build.CALL, 3), OUT, LOAD, Build.op(Build.CALL, 2), OUT, Build.op(Build.JUMP, 0));
+        Build.commit(x);
+        Build.start(x, 0);
+        int[] want = {2, 1, 1, 1, 0};
+        for (int round = 1; round <= 20; round++) {
+            due.is("steps of round " + round, 44, x.run(44));
+            due.is("numbers behind round " + round, 5 * round, x.outputs());
+            for (int back = 0; back < 5; back++) {
+                due.is("number " + back + " of round " + round, want[back], x.output(back));
+            }
+        }
+    }
+
+    /** A run that ends with five on the stacks of its frames leaves the next one its own six. */
+    private static void stacksLeftByAnEnd(Due due) {
+        int[] add = Build.op(Build.ADD);
+        PatchedMachine x = new PatchedMachine();
+        Build.method(x, 0, 0, 0, 0, PUSH, PUSH, PUSH, PUSH, PUSH, Build.op(Build.CALL, 0), add, add, add, add, add,
+                RETURN);
+        Build.method(x, 1, 1, 0, 0, LOAD, PUSH, PUSH, PUSH, PUSH, Build.op(Build.CALL, 2), add, add, add, add, add,
+                RETURN);
+        Build.method(x, 2, 0, 0, 0, Build.op(Build.PUSH, 1), Build.op(Build.PUSH, 20), Build.op(Build.PUSH, 300),
+                Build.op(Build.PUSH, 4000), Build.op(Build.PUSH, 50000), Build.op(Build.PUSH, 600000),
+                add, add, add, add, add, RETURN);
+        Build.method(x, 3, 0, 0, 0, Build.op(Build.PUSH, 7), Build.op(Build.CALL, 1), RETURN);
+        Build.commit(x);
+        for (int round = 0; round < 3; round++) {
+            Build.start(x, 0);
+            due.is("to the ninth frame", 48, x.run(300));
+            due.is("DEEP", 5, x.status());
+            Build.start(x, 3);
+            x.run(300);
+            due.is("what lay below and all six", 654332, x.result());
+        }
+    }
+
+    /** With the constructor's, 512 calls and no more. */
+    private static void allCallsThatArePromised(Due due) {
+        PatchedMachine x = new PatchedMachine();
+        Build.method(x, 0, 0, 0, 0, Build.op(Build.LOAD, 0), OUT, LOAD, PUSH, Build.op(Build.ADD),
+                Build.op(Build.STORE, 0), LOAD, OUT, Build.op(Build.JUMP, 2));
+        Build.commit(x);
+        Build.start(x, 0);
+        for (int i = 0; i < 490; i++) {
+            due.is("run " + i, 300, x.run(300));
+        }
+        // The first number is step 2, and each one more is 7 steps later, at the sixth of them.
+        int count = 1 + (490 * 300 - 2 + 1) / 7;
+        due.is("numbers put out", count, x.outputs());
+        due.is("the latest", count - 1, x.output(0));
+        due.is("the earliest that is kept", count - 16, x.output(15));
+        due.is("no earlier one", 0, x.output(16));
+        due.is("still going on", 1, x.status());
     }
 }

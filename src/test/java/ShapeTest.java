@@ -27,6 +27,30 @@ public final class ShapeTest {
         x.run(3);
         due.is("applied", 1, x.shape(3, -1));
         due.is("fewer fields", -1, x.shape(3, 1));
+        everyClassWithEveryNumberOfFields(due);
         due.end();
+    }
+
+    private static void everyClassWithEveryNumberOfFields(Due due) {
+        for (int c = 1; c <= 3; c++) {
+            for (int count = 0; count <= 4; count++) {
+                PatchedMachine x = new PatchedMachine();
+                x.layout(c);
+                for (int k = 0; k < count; k++) {
+                    x.field(c, 9 - k, (c + k) % 4, -1);
+                }
+                Build.commit(x);
+                due.is("fields of class " + c, count, x.shape(c, -1));
+                for (int k = 0; k < count; k++) {
+                    due.is("field " + k + " of " + count, 16 * (9 - k) + (c + k) % 4, x.shape(c, k));
+                }
+                for (int k : new int[] {Integer.MIN_VALUE, -3, -2, count, count + 1, 4, 256, Integer.MAX_VALUE}) {
+                    due.is("field " + k + " of " + count, -1, x.shape(c, k));
+                }
+                for (int other = 1; other <= 3; other++) {
+                    due.is("class " + other + " beside " + c, other == c ? count : 0, x.shape(other, -1));
+                }
+            }
+        }
     }
 }

@@ -8,6 +8,7 @@ public final class TypesEdgeTest {
         Due due = new Due();
         atFirstNoClassHasAField(due);
         atFirstNoMethodIsDefined(due);
+        thereAreThreeClasses(due);
         everyClassTakesFourFields(due);
         namesAreZeroToNine(due);
         namesDifferWithinAClass(due);
@@ -44,6 +45,28 @@ public final class TypesEdgeTest {
             int caller = (m + 1) % 6;
             Build.method(x, caller, 0, 0, 0, Build.op(Build.CALL, m), RETURN);
             due.is("CALL of method " + m + " at first", 1 + 100 * caller, x.commit());
+        }
+    }
+
+    /** All three classes are open for fields, so that only the number of the class can be wrong. */
+    private static void thereAreThreeClasses(Due due) {
+        PatchedMachine x = new PatchedMachine();
+        for (int c = 1; c <= 3; c++) {
+            due.is("layout(" + c + ")", true, x.layout(c));
+        }
+        for (int c : new int[] {LEAST, LEAST + 1, -31, -3, -1, 0, 4, 5, 6, 33, 34, 35, 65, 257, 65537, MOST}) {
+            due.is("layout(" + c + ")", false, x.layout(c));
+            due.is("field of class " + c, false, x.field(c, 1, 0, -1));
+            due.is("shape(" + c + ", -1)", -1, x.shape(c, -1));
+            due.is("shape(" + c + ", 0)", -1, x.shape(c, 0));
+        }
+        for (int c = 1; c <= 3; c++) {
+            due.is("field of class " + c, true, x.field(c, 1, 0, -1));
+        }
+        Build.commit(x);
+        for (int c : new int[] {LEAST, LEAST + 1, -31, -3, -1, 0, 4, 5, 6, 33, 34, 35, 65, 257, 65537, MOST}) {
+            due.is("shape(" + c + ", -1) when all have fields", -1, x.shape(c, -1));
+            due.is("shape(" + c + ", 0) when all have fields", -1, x.shape(c, 0));
         }
     }
 
@@ -155,7 +178,7 @@ public final class TypesEdgeTest {
             due.is("code of " + m, true, x.code(m, Build.PUSH, 10 * m - 7, 0));
             due.is("more code of " + m, true, x.code(m, Build.RETURN, 0, 0));
         }
-        for (int m : new int[] {LEAST, -1, 6, 7, 32, 256, MOST}) {
+        for (int m : new int[] {LEAST, -32, -1, 6, 7, 32, 37, 256, MOST}) {
             due.is("head(" + m + ")", false, x.head(m, 0, 0, 0));
             due.is("code of " + m, false, x.code(m, Build.PUSH, 0, 0));
             due.is("start(" + m + ")", false, x.start(m));
@@ -167,7 +190,7 @@ public final class TypesEdgeTest {
             due.is("steps of " + m, 2, x.run(300));
             due.is("result of " + m, 10 * m - 7, x.result());
         }
-        for (int m : new int[] {LEAST, -1, 6, 7, 32, 256, MOST}) {
+        for (int m : new int[] {LEAST, -32, -1, 6, 7, 32, 37, 256, MOST}) {
             due.is("start(" + m + ") of a full program", false, x.start(m));
         }
     }
